@@ -1,0 +1,97 @@
+/** What the tests share: telling a text, naming what answered wrong, ending with 1 then. */
+final class Check {
+    private static int wrong;
+
+    private Check() {
+    }
+
+    static void due(String call, long got, long want) {
+        if (got != want) {
+            wrong++;
+            System.out.println(call + " answered " + got + ", due is " + want);
+        }
+    }
+
+    static void due(String call, boolean got, boolean want) {
+        due(call, got ? 1 : 0, want ? 1 : 0);
+    }
+
+    static void end() {
+        if (wrong != 0) {
+            System.out.println(wrong + " answers are not as due");
+            System.exit(1);
+        }
+        System.out.println("all answers are as due");
+    }
+
+    /** A new object to which a text without a FAULT is told. */
+    static ShadowTwin told(String text) {
+        ShadowTwin x = new ShadowTwin();
+        if (tell(x, text) < 0) {
+            due("text \"" + text + "\" has a fault at " + x.fault(1), x.fault(0), 0);
+        }
+        return x;
+    }
+
+    static int tell(ShadowTwin x, String text) {
+        feed(x, text);
+        return x.text(text.length());
+    }
+
+    static void feed(ShadowTwin x, String text) {
+        for (int i = 0; i < text.length(); i += 20) {
+            x.feed(four(text, i), four(text, i + 4), four(text, i + 8), four(text, i + 12), four(text, i + 16));
+        }
+    }
+
+    private static int four(String text, int from) {
+        int number = 0;
+        for (int i = from; i < from + 4; i++) {
+            number = number << 8 | (i < text.length() ? text.charAt(i) & 255 : ' ');
+        }
+        return number;
+    }
+
+    static int letters(String name) {
+        int number = 0;
+        for (int i = 0; i < 6; i++) {
+            number = number << 5 | (i < name.length() ? name.charAt(i) - 'a' + 1 : 0);
+        }
+        return number;
+    }
+
+    /** Whole states are compared by all that can be asked without changing anything. */
+    static String all(ShadowTwin x) {
+        StringBuilder s = new StringBuilder();
+        for (int what = 0; what < 15; what++) {
+            s.append(x.count(what)).append(' ');
+        }
+        for (int what = 0; what < 6; what++) {
+            s.append(x.where(what)).append(' ');
+            for (int i = 0; i < 4; i++) {
+                s.append(x.man(i, what)).append(' ').append(x.lamp(i, what)).append(' ');
+            }
+        }
+        for (int i = 0; i < x.count(1); i++) {
+            for (int what = 0; what < 5; what++) {
+                s.append(x.doing(i, what)).append(' ');
+            }
+        }
+        for (int row = 0; row < 8; row++) {
+            for (int column = 0; column < 8; column++) {
+                s.append(x.wall(row, column)).append(' ');
+            }
+        }
+        for (int what = 0; what < 3; what++) {
+            s.append(x.law(what, 0)).append(' ');
+        }
+        return s.append(x.homes(0)).append(' ').append(x.homes(1)).toString();
+    }
+
+    static void same(String what, String got, String want) {
+        if (!got.equals(want)) {
+            wrong++;
+            System.out.println(what + ": " + got + ", due is " + want);
+        }
+    }
+}

@@ -1,7 +1,0 @@
-public final class SmokeTest {
-    public static void main(String[] args) {
-        if (new ShadowTwin().count(3) != 5) {
-            System.exit(1);
-        }
-    }
-}
