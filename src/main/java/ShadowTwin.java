@@ -4,7 +4,7 @@ import java.util.NoSuchElementException;
 public final class ShadowTwin {
     public static final int NONE = -1;
 
-    private static final int REFUSED = -2;
+    private static final int UNABLE = -2;
     private static final int TAPE_MOST = 700;
     private static final int FEED_BYTES = 20;
     private static final int SIDE_MOST = 8;
@@ -111,7 +111,7 @@ public final class ShadowTwin {
 
     public int text(int n) {
         if (n < 0 || n > taped) {
-            return REFUSED;
+            return UNABLE;
         }
         taped = 0;
         reader.begin(tape, n, draft);
@@ -220,7 +220,7 @@ public final class ShadowTwin {
 
     private int engagedTo(int man) {
         if (now.met[man] == now.trod[man]) {
-            return -2;
+            return UNABLE;
         }
         return now.met[man] > now.trod[man] ? 0 : 1;
     }
@@ -267,7 +267,7 @@ public final class ShadowTwin {
             return NONE;
         }
         if (!course.isOpen(now, way, AS_IT_GOES)) {
-            return REFUSED;
+            return UNABLE;
         }
         log.note(now);
         course.attempt(now, way, AS_IT_GOES);
@@ -338,7 +338,7 @@ public final class ShadowTwin {
             }
             course.pass(trial, AS_IT_GOES);
         }
-        return -2;
+        return UNABLE;
     }
 
     public int way(int row, int column) {
@@ -346,7 +346,7 @@ public final class ShadowTwin {
             return NONE;
         }
         int steps = paths.fewest(told, now.row * SIDE_MOST + now.column, row * SIDE_MOST + column);
-        return steps == NONE ? -2 : steps;
+        return steps == NONE ? UNABLE : steps;
     }
 
     public int cast(int row, int column, int hour) {
@@ -378,7 +378,7 @@ public final class ShadowTwin {
             return NONE;
         }
         trial.become(now);
-        int best = -2;
+        int best = UNABLE;
         int fewest = LAMPS_MOST + 1;
         int sets = 1 << told.lamps.size();
         for (int bits = 0; bits < sets; bits++) {
@@ -426,7 +426,7 @@ public final class ShadowTwin {
                 many++;
             }
         }
-        return -2;
+        return UNABLE;
     }
 
     /** asks: twice whom the first one asks, and whom the second one asks. */
@@ -503,7 +503,7 @@ public final class ShadowTwin {
                 }
             }
         }
-        return what == 0 ? many : -2;
+        return what == 0 ? many : UNABLE;
     }
 
     private boolean isHome(int row, int column) {
@@ -1647,6 +1647,7 @@ public final class ShadowTwin {
             {new World(), new World(), new World(), new World(), new World()};
         private final Course course;
         private int most;
+        private int undone;
 
         Planner(Course course) {
             this.course = course;
@@ -1654,17 +1655,19 @@ public final class ShadowTwin {
 
         void search(World now) {
             most = NONE;
+            undone = course.told.worthOf(~now.done);
             worlds[0].become(now);
             lay(0);
         }
 
         private void lay(int depth) {
-            if (depth >= PLAN_HOURS) {
+            if (depth < 0 || depth >= PLAN_HOURS) {
                 weigh();
                 return;
             }
             World next = worlds[depth + 1];
-            for (int way = 0; way <= STAY; way++) {
+            // where all that can be done is done, no later plan is better
+            for (int way = 0; way <= STAY && most < undone; way++) {
                 laid[depth] = way;
                 next.become(worlds[depth]);
                 if (way < STAY) {
@@ -1676,8 +1679,7 @@ public final class ShadowTwin {
         }
 
         private void weigh() {
-            Told told = course.told;
-            int worth = told.worthOf(worlds[PLAN_HOURS].done) - told.worthOf(worlds[0].done);
+            int worth = undone - course.told.worthOf(~worlds[PLAN_HOURS].done);
             // plans come by their WAYS, so only more is better
             if (worth > most) {
                 most = worth;

@@ -250,6 +250,12 @@ public final class AheadTest {
         Check.due("never tired", tired.tried(4, 0, 3), 3);
         tired.step(1);
         Check.due("not now either", tired.tried(4, 0, 2), 2);
+        ShadowTwin weary = Check.told("room 1 8;sun 0 1 1;step 0 1;law long weary+1;doing a 1 0 2 1;doing b 1 0 3 2;");
+        Check.due("weary once", weary.tried(0, 0, 1), 2);
+        Check.due("never weary", weary.tried(4, 0, 1), 1);
+        weary.step(1);
+        weary.step(3);
+        Check.due("not even at first", weary.tried(4, 0, 1), 1);
         ShadowTwin bright = Check.told("room 1 8;her 0 4;sun 0 1 2;cloud 49;lamp l 0 5 9;doing a 1 0 6 1;doing b 1 0 3 2;");
         Check.due("by the sun", bright.tried(0, 0, 1), 1);
         Check.due("no sun: by the lamp", bright.tried(5, 0, 1), 2);

@@ -198,19 +198,20 @@ public final class CallTest {
     }
 
     private static void undo() {
-        ShadowTwin x = Check.told("room 1 8;her 0 0;lamp l 0 7 9;doing d 0 0 0 1;law tired 4;");
+        ShadowTwin x = Check.told("room 2 8;her 1 0;lamp l 0 7 9;doing d 0 1 0 1;law tired 4;");
         Check.due("nothing yet", x.undo(), -1);
         x.go(1);
         String before = Check.all(x);
         x.step(1);
         x.light(0, false);
         x.again(0);
-        x.step(1);
+        x.step(0);
         x.step(0);
         x.light(0, false);
         x.again(0);
         Check.due("only what changed", x.count(14), 4);
         Check.due("undo a step", x.undo(), 3);
+        Check.due("her row", x.where(0), 1);
         Check.due("her column", x.where(1), 1);
         Check.due("tired", x.where(5), 4);
         Check.due("undo again", x.undo(), 2);
@@ -273,5 +274,15 @@ public final class CallTest {
         Check.due("a text that fails leaves it", x.back(), 7);
         x.text(0);
         Check.due("a text ends it", x.back(), -1);
+        Check.tell(x, "sun 0 1 1;cloud 50;seed 3;");
+        x.go(5);
+        x.keep();
+        for (int i = 0; i < 3; i++) {
+            x.go(20 + i);
+            x.back();
+            Check.due("clouds as of the image", x.go(30), 35);
+            Check.due("hours as one", x.count(10), cloudy(3, 50, 35));
+            x.back();
+        }
     }
 }

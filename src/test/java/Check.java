@@ -85,6 +85,7 @@ final class Check {
         for (int what = 0; what < 3; what++) {
             s.append(x.law(what, 0)).append(' ');
         }
+        s.append(x.clear(1, 0)).append(' ').append(x.clear(1, 1)).append(' ');
         return s.append(x.homes(0)).append(' ').append(x.homes(1)).toString();
     }
 

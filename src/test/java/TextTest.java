@@ -31,6 +31,8 @@ public final class TextTest {
         Check.due("new: back()", x.back(), -1);
         Check.due("new: fault(0)", x.fault(0), 0);
         Check.due("new: fault(1)", x.fault(1), -1);
+        x.see(1, 0, 0, 0, true);
+        Check.due("new: all are known", x.count(13), 1);
     }
 
     private static void feed() {
@@ -74,7 +76,7 @@ public final class TextTest {
     }
 
     private static String full() {
-        return "room 3 4;her 1 1;wall 0 1;sun 6 1 2;sun 18 0 0;lamp l 1 0 3;lamp k 2 3 9;step 0 1;step 7 3;"
+        return "room 3 4;her 1 1;wall 0 1;sun 6 1 2;sun 18 0 0;lamp l 1 0 3;lamp k 2 3 9;step 0 1;step 2 1;step 2 1;step 7 3;"
             + "doing tea 0 1 2 5;doing wet 1 1 3 9;man tom 1 3;man tim 1 2;cloud 0;seed 1;law fond trod+1;";
     }
 
@@ -102,7 +104,7 @@ public final class TextTest {
 
     private static void textStartsAnew() {
         ShadowTwin x = lived();
-        Check.due("the same text again", Check.tell(x, full()), 16);
+        Check.due("the same text again", Check.tell(x, full()), 18);
         Check.same("all is as at first", Check.all(x), Check.all(Check.told(full())));
         Check.due("nothing to undo", x.undo(), -1);
         Check.due("no image", x.back(), -1);
@@ -112,13 +114,14 @@ public final class TextTest {
         Check.tell(x, "sun 0 1 1;cloud 50;seed 7;");
         x.go(40);
         Check.due("numbers from the seed", x.count(10), ones);
-        nothingIsLeft("her 1 1;wall 0 1;wall 3 3;sun 0 1 1;lamp l 0 0 9;step 0 2;step 1 2;doing d 0 0 0 9;man m 0 0;law tired 5;law long 1;");
+        nothingIsLeft("her 1 1;wall 0 0;wall 0 1;wall 3 3;sun 0 1 1;lamp l 0 0 9;step 0 2;step 1 2;doing d 0 0 0 9;man m 0 0;law tired 5;law long 1;");
         nothingIsLeft("room 8 2;cloud 60;seed 77;sun 4 1 1;law fond 1;");
     }
 
     /** A text is read where one before the latest stood, so two come behind it. */
     private static void nothingIsLeft(String text) {
         ShadowTwin x = Check.told(text);
+        x.text(0);
         for (int i = 0; i < 2; i++) {
             Check.due("nothing is left of a text", x.text(0), 0);
             Check.same("as new", Check.all(x), Check.all(new ShadowTwin()));
@@ -131,9 +134,10 @@ public final class TextTest {
             String clouds = "sun 0 1 1;cloud 50;";
             Check.tell(x, clouds);
             x.go(60);
-            ShadowTwin other = Check.told(clouds);
+            ShadowTwin other = Check.told(clouds + "seed 0;");
             other.go(60);
             Check.due("the seed is 0 without", x.count(10), other.count(10));
+            x.text(0);
         }
     }
 
@@ -312,6 +316,13 @@ public final class TextTest {
         fault("law long " + sixtyThree + ";law fond 1;law tired (1);", 2, 9 + 63 + 23);
         fault("law long " + sixtyThree + ";law fond 1;law tired ;", 1, 9 + 63 + 22);
         fault("law long " + "not ".repeat(64) + "1;", 2, 9 + 256);
+        ShadowTwin broken = new ShadowTwin();
+        Check.tell(broken, "law long not (1+(2*(;");
+        Check.due("a law behind a broken one", Check.tell(broken, "law tired 2*3-1;"), 1);
+        Check.due("its value", broken.law(2, 0), 5);
+        Check.tell(broken, "law long not (1+(2*(;");
+        Check.due("no '(' is open any more", Check.tell(broken, "law tired 2);"), -1);
+        Check.due("at the ')'", broken.fault(1), 11);
         ShadowTwin x = Check.told("law long far+met*trod-done/weary<=lit and not(hour)or 2;law tired 3;");
         Check.due("knots of all laws", x.count(5), 17);
     }
