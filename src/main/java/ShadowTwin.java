@@ -826,7 +826,7 @@ public final class ShadowTwin {
                     return a - b;
                 case Reader.TIMES:
                     // asked by division, because the product may be beyond a long
-                    return a != 0 && Math.abs(b) > LIMIT / Math.abs(a) ? ERROR : a * b;
+                    return a != 0 && (b < 0 ? -b : b) > LIMIT / (a < 0 ? -a : a) ? ERROR : a * b;
                 case Reader.OVER:
                     return b == 0 ? ERROR : a / b;
                 case Reader.LESS:

@@ -1,15 +1,39 @@
+import java.io.IOException;
+import java.io.UncheckedIOException;
+import java.nio.file.Files;
+import java.nio.file.Path;
+
 /** What the tests share: telling a text, naming what answered wrong, ending with 1 then. */
 final class Check {
     private static int wrong;
+    private static String document = "";
+    private static String sentence = "";
 
     private Check() {
     }
 
     static void due(String call, long got, long want) {
         if (got != want) {
-            wrong++;
-            System.out.println(call + " answered " + got + ", due is " + want);
+            tellWrong(call + " answered " + got + ", due is " + want);
         }
+    }
+
+    private static void tellWrong(String what) {
+        wrong++;
+        System.out.println(sentence.isEmpty() ? what : what + "  <" + sentence + ">");
+    }
+
+    /** What comes next tests this sentence, which must stand in the document to the letter. */
+    static void about(String words) {
+        if (document.isEmpty()) {
+            try {
+                document = Files.readString(Path.of("../shared/DOC.md"));
+            } catch (IOException e) {
+                throw new UncheckedIOException(e);
+            }
+        }
+        sentence = words;
+        due("the document says so", document.contains(words), true);
     }
 
     static void due(String call, boolean got, boolean want) {
@@ -31,6 +55,19 @@ final class Check {
             due("text \"" + text + "\" has a fault at " + x.fault(1), x.fault(0), 0);
         }
         return x;
+    }
+
+    /** What a text's FAULT is, and its place. */
+    static void fault(String text, int fault, int place) {
+        ShadowTwin x = new ShadowTwin();
+        int lines = tell(x, text);
+        due("\"" + text + "\": fault(0)", x.fault(0), fault);
+        due("\"" + text + "\": fault(1)", x.fault(1), place);
+        due("\"" + text + "\" is refused", lines == -1, fault != 0);
+    }
+
+    static void fine(String text) {
+        fault(text, 0, -1);
     }
 
     static int tell(ShadowTwin x, String text) {
@@ -91,8 +128,7 @@ final class Check {
 
     static void same(String what, String got, String want) {
         if (!got.equals(want)) {
-            wrong++;
-            System.out.println(what + ": " + got + ", due is " + want);
+            tellWrong(what + ": " + got + ", due is " + want);
         }
     }
 }

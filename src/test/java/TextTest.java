@@ -141,99 +141,87 @@ public final class TextTest {
         }
     }
 
-    private static void fault(String text, int fault, int place) {
-        ShadowTwin x = new ShadowTwin();
-        int lines = Check.tell(x, text);
-        Check.due("\"" + text + "\": fault(0)", x.fault(0), fault);
-        Check.due("\"" + text + "\": fault(1)", x.fault(1), place);
-        Check.due("\"" + text + "\" is refused", lines == -1, fault != 0);
-    }
-
-    private static void fine(String text) {
-        fault(text, 0, -1);
-    }
-
     private static void faultsOfTokens() {
-        fault("room", 1, 4);
-        fault("room ", 1, 5);
-        fault("room 3", 1, 6);
-        fault("room 3 4", 1, 8);
-        fault("room 3 4 \n", 1, 10);
-        fault(";", 1, 0);
-        fault("seed 1;;", 1, 7);
-        fault("Seed 1;", 1, 0);
-        fault("seed\t1;", 1, 4);
-        fault("seed 1!;", 1, 6);
-        fault("seed 1 1;", 1, 7);
-        fault("seed x;", 1, 5);
-        fault("seed;", 1, 4);
-        fault("7;", 1, 0);
-        fault("lamps a 0 0 1;", 1, 0);
-        fault("tired 1;", 1, 0);
-        fine("lamp abcdef 0 0 1;");
-        fault("lamp abcdefg 0 0 1;", 1, 5);
-        fault("lamp sun 0 0 1;", 1, 5);
-        fault("lamp hour 0 0 1;", 1, 5);
-        fault("lamp 1 0 0 1;", 1, 5);
-        fault("man m a 0;", 1, 6);
-        fault("doing d 0 0 0;", 1, 13);
-        fault("sun 0 0;", 1, 7);
+        Check.fault("room", 1, 4);
+        Check.fault("room ", 1, 5);
+        Check.fault("room 3", 1, 6);
+        Check.fault("room 3 4", 1, 8);
+        Check.fault("room 3 4 \n", 1, 10);
+        Check.fault(";", 1, 0);
+        Check.fault("seed 1;;", 1, 7);
+        Check.fault("Seed 1;", 1, 0);
+        Check.fault("seed\t1;", 1, 4);
+        Check.fault("seed 1!;", 1, 6);
+        Check.fault("seed 1 1;", 1, 7);
+        Check.fault("seed x;", 1, 5);
+        Check.fault("seed;", 1, 4);
+        Check.fault("7;", 1, 0);
+        Check.fault("lamps a 0 0 1;", 1, 0);
+        Check.fault("tired 1;", 1, 0);
+        Check.fine("lamp abcdef 0 0 1;");
+        Check.fault("lamp abcdefg 0 0 1;", 1, 5);
+        Check.fault("lamp sun 0 0 1;", 1, 5);
+        Check.fault("lamp hour 0 0 1;", 1, 5);
+        Check.fault("lamp 1 0 0 1;", 1, 5);
+        Check.fault("man m a 0;", 1, 6);
+        Check.fault("doing d 0 0 0;", 1, 13);
+        Check.fault("sun 0 0;", 1, 7);
         // the first one along the text, whatever comes behind
-        fault("sun 24 0 !;", 2, 4);
-        fault("sun 0 ! 9;", 1, 6);
+        Check.fault("sun 24 0 !;", 2, 4);
+        Check.fault("sun 0 ! 9;", 1, 6);
     }
 
     private static void faultsOfLines() {
-        fine("room 1 8;");
-        fine("room 8 1;her 7 0;");
-        fault("room 0 1;", 2, 5);
-        fault("room 8 9;", 2, 7);
-        fault("room 8 0;", 2, 7);
-        fault("seed 1;room 1 1;", 1, 7);
-        fault("room 1 1;room 1 1;", 1, 9);
-        fault("room 2 3;her 2 0;", 2, 13);
-        fault("room 2 3;her 0 3;", 2, 15);
-        fine("room 2 3;her 1 2;");
-        fault("her 0 0;her 0 0;", 3, 8);
-        fault("wall 1 1;her 0 0;", 1, 9);
-        fault("her 0 0;wall 1 1;her 0 0;", 1, 17);
-        fault("wall 0 0;", 5, 7);
-        fine("her 1 1;wall 0 0;");
-        fault("her 1 1;wall 1 1;", 5, 15);
-        fault("wall 1 1;wall 1 1;", 5, 16);
-        fault("wall 5 0;", 2, 5);
-        fault("wall 0 5;", 2, 7);
-        fine("sun 0 0 0;sun 23 3 7;");
-        fault("sun 24 0 0;", 2, 4);
-        fault("sun 0 4 0;", 2, 6);
-        fault("sun 0 0 8;", 2, 8);
-        fault("sun 5 1 1;sun 5 1 1;", 3, 14);
-        fault("lamp l 0 0 0;", 2, 11);
-        fine("lamp l 4 4 9;");
-        fault("lamp l 0 0 10;", 2, 11);
-        fault("lamp l 5 0 1;", 2, 7);
-        fault("lamp l 0 5 1;", 2, 9);
-        fault("lamp l 0 0 1;lamp l 0 0 1;", 3, 18);
-        fine("lamp l 0 0 1;doing l 0 0 0 1;man l 0 0;");
-        fine("step 99 3;step 99 3;");
-        fault("step 100 0;", 2, 5);
-        fault("step 0 4;", 2, 7);
-        fine("doing d 1 4 4 99;");
-        fault("doing d 2 0 0 1;", 2, 8);
-        fault("doing d 0 5 0 1;", 2, 10);
-        fault("doing d 0 0 5 1;", 2, 12);
-        fault("doing d 0 0 0 0;", 2, 14);
-        fault("doing d 0 0 0 100;", 2, 14);
-        fault("doing d 0 0 0 1;doing d 0 0 0 1;", 3, 22);
-        fault("man m 5 0;", 2, 6);
-        fault("man m 0 5;", 2, 8);
-        fault("man m 0 0;man m 0 0;", 3, 14);
-        fine("cloud 100;seed 99999;");
-        fault("cloud 101;", 2, 6);
-        fault("cloud 99999999999999999999;", 2, 6);
-        fault("cloud 0;cloud 0;", 3, 8);
-        fault("seed 100000;", 2, 5);
-        fault("seed 0;seed 0;", 3, 7);
+        Check.fine("room 1 8;");
+        Check.fine("room 8 1;her 7 0;");
+        Check.fault("room 0 1;", 2, 5);
+        Check.fault("room 8 9;", 2, 7);
+        Check.fault("room 8 0;", 2, 7);
+        Check.fault("seed 1;room 1 1;", 1, 7);
+        Check.fault("room 1 1;room 1 1;", 1, 9);
+        Check.fault("room 2 3;her 2 0;", 2, 13);
+        Check.fault("room 2 3;her 0 3;", 2, 15);
+        Check.fine("room 2 3;her 1 2;");
+        Check.fault("her 0 0;her 0 0;", 3, 8);
+        Check.fault("wall 1 1;her 0 0;", 1, 9);
+        Check.fault("her 0 0;wall 1 1;her 0 0;", 1, 17);
+        Check.fault("wall 0 0;", 5, 7);
+        Check.fine("her 1 1;wall 0 0;");
+        Check.fault("her 1 1;wall 1 1;", 5, 15);
+        Check.fault("wall 1 1;wall 1 1;", 5, 16);
+        Check.fault("wall 5 0;", 2, 5);
+        Check.fault("wall 0 5;", 2, 7);
+        Check.fine("sun 0 0 0;sun 23 3 7;");
+        Check.fault("sun 24 0 0;", 2, 4);
+        Check.fault("sun 0 4 0;", 2, 6);
+        Check.fault("sun 0 0 8;", 2, 8);
+        Check.fault("sun 5 1 1;sun 5 1 1;", 3, 14);
+        Check.fault("lamp l 0 0 0;", 2, 11);
+        Check.fine("lamp l 4 4 9;");
+        Check.fault("lamp l 0 0 10;", 2, 11);
+        Check.fault("lamp l 5 0 1;", 2, 7);
+        Check.fault("lamp l 0 5 1;", 2, 9);
+        Check.fault("lamp l 0 0 1;lamp l 0 0 1;", 3, 18);
+        Check.fine("lamp l 0 0 1;doing l 0 0 0 1;man l 0 0;");
+        Check.fine("step 99 3;step 99 3;");
+        Check.fault("step 100 0;", 2, 5);
+        Check.fault("step 0 4;", 2, 7);
+        Check.fine("doing d 1 4 4 99;");
+        Check.fault("doing d 2 0 0 1;", 2, 8);
+        Check.fault("doing d 0 5 0 1;", 2, 10);
+        Check.fault("doing d 0 0 5 1;", 2, 12);
+        Check.fault("doing d 0 0 0 0;", 2, 14);
+        Check.fault("doing d 0 0 0 100;", 2, 14);
+        Check.fault("doing d 0 0 0 1;doing d 0 0 0 1;", 3, 22);
+        Check.fault("man m 5 0;", 2, 6);
+        Check.fault("man m 0 5;", 2, 8);
+        Check.fault("man m 0 0;man m 0 0;", 3, 14);
+        Check.fine("cloud 100;seed 99999;");
+        Check.fault("cloud 101;", 2, 6);
+        Check.fault("cloud 99999999999999999999;", 2, 6);
+        Check.fault("cloud 0;cloud 0;", 3, 8);
+        Check.fault("seed 100000;", 2, 5);
+        Check.fault("seed 0;seed 0;", 3, 7);
     }
 
     private static String many(String line, int n) {
@@ -247,8 +235,8 @@ public final class TextTest {
 
     private static void tooMany(String line, int most) {
         String text = "room 8 8;her 7 7;" + many(line, most);
-        fine(text);
-        fault(text + line, 2, text.length());
+        Check.fine(text);
+        Check.fault(text + line, 2, text.length());
     }
 
     private static void faultsOfTooMany() {
@@ -261,61 +249,61 @@ public final class TextTest {
     }
 
     private static void faultsOfLaws() {
-        fault("law sun 1;", 1, 4);
-        fault("law 1;", 1, 4);
-        fault("law long;", 1, 8);
-        fault("law long", 1, 8);
-        fault("law long 1;law long 1;", 3, 15);
-        fault("law long 1;law long !;", 3, 15);
-        fine("law long 1;law fond 1;law tired 1;");
-        fault("law long 1+;", 1, 11);
-        fault("law long +1;", 1, 9);
-        fault("law long -1;", 1, 9);
-        fault("law long 1 2;", 1, 11);
-        fault("law long x;", 1, 9);
-        fault("law long room;", 1, 9);
-        fault("law long (1;", 1, 11);
-        fault("law long ();", 1, 10);
-        fault("law long 1);", 1, 10);
-        fault("law long (1));", 1, 12);
-        fault("law long 1(2);", 1, 10);
-        fault("law long 1<2<3;", 1, 12);
-        fault("law long 1<2=3;", 1, 12);
-        fine("law long (1<2)<3;");
-        fine("law long 1<2 and 2<3 or 3<4;");
-        fine("law long not 1<2;");
-        fine("law long 1<=2 or 1<>2 or 1>=2 or 1>2 or 1=2;");
-        fault("law long 1< =2;", 1, 12);
-        fault("law long 1<==2;", 1, 12);
-        fault("law long 1=>2;", 1, 11);
-        fault("law long 1><2;", 1, 11);
-        fault("law long 1>>2;", 1, 11);
-        fault("law long 1+not 2;", 1, 11);
-        fault("law long 1<not 2;", 1, 11);
-        fault("law long 1 not 2;", 1, 11);
-        fine("law long not not 1 and not(not 2);");
-        fault("law long not;", 1, 12);
-        fault("law long 1 and;", 1, 14);
-        fault("law long 1 or or 2;", 1, 14);
-        fine("law long 9999;");
-        fault("law long 10000;", 2, 9);
-        fine("law long ((((((((1))))))));");
-        fault("law long (((((((((1)))))))));", 2, 17);
-        fine("law long ((((((((1))))))))+((((((((2))))))));");
-        fault("law long ((((((((1))))))))(;", 1, 26);
+        Check.fault("law sun 1;", 1, 4);
+        Check.fault("law 1;", 1, 4);
+        Check.fault("law long;", 1, 8);
+        Check.fault("law long", 1, 8);
+        Check.fault("law long 1;law long 1;", 3, 15);
+        Check.fault("law long 1;law long !;", 3, 15);
+        Check.fine("law long 1;law fond 1;law tired 1;");
+        Check.fault("law long 1+;", 1, 11);
+        Check.fault("law long +1;", 1, 9);
+        Check.fault("law long -1;", 1, 9);
+        Check.fault("law long 1 2;", 1, 11);
+        Check.fault("law long x;", 1, 9);
+        Check.fault("law long room;", 1, 9);
+        Check.fault("law long (1;", 1, 11);
+        Check.fault("law long ();", 1, 10);
+        Check.fault("law long 1);", 1, 10);
+        Check.fault("law long (1));", 1, 12);
+        Check.fault("law long 1(2);", 1, 10);
+        Check.fault("law long 1<2<3;", 1, 12);
+        Check.fault("law long 1<2=3;", 1, 12);
+        Check.fine("law long (1<2)<3;");
+        Check.fine("law long 1<2 and 2<3 or 3<4;");
+        Check.fine("law long not 1<2;");
+        Check.fine("law long 1<=2 or 1<>2 or 1>=2 or 1>2 or 1=2;");
+        Check.fault("law long 1< =2;", 1, 12);
+        Check.fault("law long 1<==2;", 1, 12);
+        Check.fault("law long 1=>2;", 1, 11);
+        Check.fault("law long 1><2;", 1, 11);
+        Check.fault("law long 1>>2;", 1, 11);
+        Check.fault("law long 1+not 2;", 1, 11);
+        Check.fault("law long 1<not 2;", 1, 11);
+        Check.fault("law long 1 not 2;", 1, 11);
+        Check.fine("law long not not 1 and not(not 2);");
+        Check.fault("law long not;", 1, 12);
+        Check.fault("law long 1 and;", 1, 14);
+        Check.fault("law long 1 or or 2;", 1, 14);
+        Check.fine("law long 9999;");
+        Check.fault("law long 10000;", 2, 9);
+        Check.fine("law long ((((((((1))))))));");
+        Check.fault("law long (((((((((1)))))))));", 2, 17);
+        Check.fine("law long ((((((((1))))))))+((((((((2))))))));");
+        Check.fault("law long ((((((((1))))))))(;", 1, 26);
     }
 
     private static void knots() {
         String sixtyThree = "1" + "+1".repeat(31);
-        fine("law long not " + sixtyThree + ";");
-        fault("law long " + sixtyThree + "+1;", 2, 9 + 64);
-        fault("law long " + sixtyThree + "+" + "10000;", 2, 9 + 64);
-        fault("law long " + sixtyThree + "+!;", 1, 9 + 64);
-        fault("law long " + sixtyThree + "+;", 1, 9 + 64);
-        fault("law long " + sixtyThree + ";law fond 1;law tired 1;", 2, 9 + 63 + 22);
-        fault("law long " + sixtyThree + ";law fond 1;law tired (1);", 2, 9 + 63 + 23);
-        fault("law long " + sixtyThree + ";law fond 1;law tired ;", 1, 9 + 63 + 22);
-        fault("law long " + "not ".repeat(64) + "1;", 2, 9 + 256);
+        Check.fine("law long not " + sixtyThree + ";");
+        Check.fault("law long " + sixtyThree + "+1;", 2, 9 + 64);
+        Check.fault("law long " + sixtyThree + "+" + "10000;", 2, 9 + 64);
+        Check.fault("law long " + sixtyThree + "+!;", 1, 9 + 64);
+        Check.fault("law long " + sixtyThree + "+;", 1, 9 + 64);
+        Check.fault("law long " + sixtyThree + ";law fond 1;law tired 1;", 2, 9 + 63 + 22);
+        Check.fault("law long " + sixtyThree + ";law fond 1;law tired (1);", 2, 9 + 63 + 23);
+        Check.fault("law long " + sixtyThree + ";law fond 1;law tired ;", 1, 9 + 63 + 22);
+        Check.fault("law long " + "not ".repeat(64) + "1;", 2, 9 + 256);
         ShadowTwin broken = new ShadowTwin();
         Check.tell(broken, "law long not (1+(2*(;");
         Check.due("a law behind a broken one", Check.tell(broken, "law tired 2*3-1;"), 1);
