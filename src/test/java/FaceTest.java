@@ -48,10 +48,24 @@ public final class FaceTest {
         }
         Check.same("the methods", String.join(" ", got), FACE);
         Check.due("how many", got.size(), 33);
+        for (Method method : ShadowTwin.class.getMethods()) {
+            if (names.contains(method.getName())) {
+                Check.same(method.getName() + " throws", thrown(method),
+                    method.getName().equals("doing") ? "IndexOutOfBoundsException NoSuchElementException " : "");
+            }
+        }
         for (Method method : ShadowTwin.class.getDeclaredMethods()) {
             boolean isPrivate = Modifier.isPrivate(method.getModifiers());
             Check.due("private " + method.getName(), isPrivate && names.contains(method.getName()), false);
         }
+    }
+
+    private static String thrown(Method method) {
+        StringBuilder s = new StringBuilder();
+        for (Class<?> type : method.getExceptionTypes()) {
+            s.append(type.getSimpleName()).append(' ');
+        }
+        return s.toString();
     }
 
     private static void membersElse() {
