@@ -565,6 +565,9 @@ public final class EdgeHourTest {
         // products beyond a long, too: 2 to the 64 is 0 there
         value("(" + million + "*" + million + ")*(" + million + "*" + million + ")", Long.MIN_VALUE);
         value("(4096*4096*256)*(4096*4096*256)", Long.MIN_VALUE);
+        value("(0-4096*4096*256)*(4096*4096*256)", Long.MIN_VALUE);
+        value("(4096*4096*256)*(0-4096*4096*256)", Long.MIN_VALUE);
+        value("(0-4096*4096*256)*(0-4096*4096*256)", Long.MIN_VALUE);
         value("(4096*4096*256)*(4096*4096*128)", Long.MIN_VALUE);
         value("(" + million + "*" + million + ")*0", 0);
         value("0*(" + million + "*" + million + ")", 0);

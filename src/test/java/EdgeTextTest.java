@@ -89,9 +89,11 @@ public final class EdgeTextTest {
         for (int i = 0; i < LANGUAGE.length; i++) {
             boolean isLine = i <= 10;
             Check.fault(LANGUAGE[i], 1, isLine ? LANGUAGE[i].length() : 0);
+            Check.fault(LANGUAGE[i] + ";", 1, isLine ? LANGUAGE[i].length() : 0);
             Check.fault(LANGUAGE[i] + "s 1;", 1, 0);
             boolean isRule = i >= 11 && i <= 13;
             Check.fault("law " + LANGUAGE[i], 1, isRule ? 4 + LANGUAGE[i].length() : 4);
+            Check.fault("law " + LANGUAGE[i] + ";", 1, isRule ? 4 + LANGUAGE[i].length() : 4);
             boolean isName = i >= 17;
             Check.fault("law long " + LANGUAGE[i] + ";", isName ? 0 : 1, isName ? -1 : LANGUAGE[i].equals("not") ? 12 : 9);
         }
