@@ -209,6 +209,7 @@ public final class EdgeHourTest {
 
     private static void cloudsByNumbers() {
         Check.about("(1) clouds: a number modulo 100 (no number, if cloud is 0 or 100 or there are no SUNS) below cloud.");
+        Check.about("Numbers are the last one (at first the seed) times 1103515245 and 12345, without what is above 31 bits, by 65536.");
         int looked = 0;
         for (int seed = 0; seed <= 99999; seed += 1111) {
             long first = next(seed) / 65536 % 100;

@@ -218,7 +218,9 @@ public final class EdgeTextTest {
         Check.due("row without", without.where(0), 0);
         Check.due("column without", without.where(1), 0);
         Check.fine("sun 0 0 0;lamp a 0 0 1;step 0 0;doing a 0 0 0 1;man a 0 0;cloud 0;seed 0;law long 1;her 1 1;wall 0 0;");
+        Check.about("her behind a wall)");
         Check.fault("sun 0 0 0;wall 1 0;seed 1;her 0 0;", 1, 26);
+        Check.fine("sun 0 0 0;her 0 0;seed 1;wall 1 0;");
     }
 
     private static void walls() {
