@@ -144,24 +144,16 @@ public final class AheadTest {
         Check.due("four", lit.lampsFor(0, 7), 15);
     }
 
-    private static void plan(String text, int first, int second, int third, int fourth, int worth) {
-        ShadowTwin x = Check.told(text);
-        int[] due = {first, second, third, fourth, worth};
-        for (int what = 0; what < 5; what++) {
-            Check.due(text + ": plan(" + what + ")", x.plan(what), due[what]);
-        }
-    }
-
     private static void plan() {
-        plan("", 0, 0, 0, 0, 0);
-        plan("her 1 1;doing d 0 1 2 5;", 0, 0, 1, 2, 5);
-        plan("her 2 2;doing d 0 2 4 5;", 0, 1, 1, 2, 5);
-        plan("her 0 0;doing d 0 4 4 5;", 0, 0, 0, 0, 0);
-        plan("her 0 0;doing a 0 0 0 9;doing b 0 0 1 1;", 0, 0, 0, 1, 10);
-        plan("her 0 2;doing a 0 0 0 9;doing b 0 0 4 8;", 0, 0, 3, 3, 9);
-        plan("her 0 2;doing a 0 0 0 8;doing b 0 0 4 9;", 0, 0, 1, 1, 9);
-        plan("room 1 1;doing a 0 0 0 9;", 0, 0, 0, 0, 9);
-        plan("room 1 5;sun 0 1 2;doing a 1 0 4 9;doing b 1 0 2 3;doing c 0 0 0 1;", 0, 0, 1, 1, 13);
+        Check.plan("", 0, 0, 0, 0, 0);
+        Check.plan("her 1 1;doing d 0 1 2 5;", 0, 0, 1, 2, 5);
+        Check.plan("her 2 2;doing d 0 2 4 5;", 0, 1, 1, 2, 5);
+        Check.plan("her 0 0;doing d 0 4 4 5;", 0, 0, 0, 0, 0);
+        Check.plan("her 0 0;doing a 0 0 0 9;doing b 0 0 1 1;", 0, 0, 0, 1, 10);
+        Check.plan("her 0 2;doing a 0 0 0 9;doing b 0 0 4 8;", 0, 0, 3, 3, 9);
+        Check.plan("her 0 2;doing a 0 0 0 8;doing b 0 0 4 9;", 0, 0, 1, 1, 9);
+        Check.plan("room 1 1;doing a 0 0 0 9;", 0, 0, 0, 0, 9);
+        Check.plan("room 1 5;sun 0 1 2;doing a 1 0 4 9;doing b 1 0 2 3;doing c 0 0 0 1;", 0, 0, 1, 1, 13);
         ShadowTwin x = Check.told("room 1 3;her 0 2;doing d 0 0 0 5;doing e 0 0 2 3;");
         Check.due("both", x.plan(4), 8);
         Check.due("left at last", x.plan(3), 3);
@@ -180,14 +172,14 @@ public final class AheadTest {
 
     private static void planAmongSteps() {
         // ahead of (2): she goes right by the plan and right by the step, in one hour
-        plan("room 1 8;step 0 1;doing d 0 0 2 9;doing e 0 0 1 1;law tired 4-hour;", 0, 0, 0, 1, 9 + 1);
+        Check.plan("room 1 8;step 0 1;doing d 0 0 2 9;doing e 0 0 1 1;law tired 4-hour;", 0, 0, 0, 1, 9 + 1);
         // a step that isn't refused would make her too tired for the one that is told
-        plan("room 2 3;step 0 1;law tired 9;doing d 0 0 1 9;doing e 0 1 1 9;", 0, 0, 0, 0, 9);
-        plan("room 3 3;her 1 1;step 0 1;step 1 1;step 2 1;step 3 1;law tired 9;wall 1 2;doing d 0 0 1 9;", 0, 0, 0, 0, 9);
-        plan("room 3 3;her 1 1;step 3 1;law tired 9;doing d 0 1 2 9;", 1, 0, 0, 0, 9);
-        plan("room 3 3;her 1 1;step 3 1;step 2 3;law tired 9*(weary=0);doing d 0 1 0 9;", 3, 0, 0, 0, 9);
+        Check.plan("room 2 3;step 0 1;law tired 9;doing d 0 0 1 9;doing e 0 1 1 9;", 0, 0, 0, 0, 9);
+        Check.plan("room 3 3;her 1 1;step 0 1;step 1 1;step 2 1;step 3 1;law tired 9;wall 1 2;doing d 0 0 1 9;", 0, 0, 0, 0, 9);
+        Check.plan("room 3 3;her 1 1;step 3 1;law tired 9;doing d 0 1 2 9;", 1, 0, 0, 0, 9);
+        Check.plan("room 3 3;her 1 1;step 3 1;step 2 3;law tired 9*(weary=0);doing d 0 1 0 9;", 3, 0, 0, 0, 9);
         // four ways lead away for good: she stays
-        plan("room 3 3;her 1 1;sun 0 1 1;sun 1 2 0;law tired 9;doing d 1 1 2 9;", 4, 0, 0, 0, 9);
+        Check.plan("room 3 3;her 1 1;sun 0 1 1;sun 1 2 0;law tired 9;doing d 1 1 2 9;", 4, 0, 0, 0, 9);
     }
 
     private static int often(String text, int seed, int n, int doings) {
@@ -202,7 +194,7 @@ public final class AheadTest {
             for (int i = 0; i < 10; i++) {
                 boolean sun = false;
                 for (int hour = 0; hour < 3; hour++) {
-                    number = (number * 1103515245L + 12345L) % 2147483648L;
+                    number = Check.nextNumber(number);
                     sun |= number / 65536 % 100 >= 70;
                 }
                 due += sun ? 1 : 0;

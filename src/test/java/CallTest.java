@@ -176,7 +176,7 @@ public final class CallTest {
         long number = seed;
         int clouds = 0;
         for (int i = 0; i < hours; i++) {
-            number = (number * 1103515245L + 12345L) % 2147483648L;
+            number = Check.nextNumber(number);
             if (number / 65536 % 100 < cloud) {
                 clouds++;
             }

@@ -2,6 +2,7 @@ import java.io.IOException;
 import java.io.UncheckedIOException;
 import java.nio.file.Files;
 import java.nio.file.Path;
+import java.util.NoSuchElementException;
 
 /** What the tests share: telling a text, naming what answered wrong, ending with 1 then. */
 final class Check {
@@ -95,6 +96,29 @@ final class Check {
             number = number << 5 | (i < name.length() ? name.charAt(i) - 'a' + 1 : 0);
         }
         return number;
+    }
+
+    /** The WAYS of a text's PLAN, and its WORTH. */
+    static void plan(String text, int first, int second, int third, int fourth, int worth) {
+        ShadowTwin x = told(text);
+        int[] due = {first, second, third, fourth, worth};
+        for (int what = 0; what < 5; what++) {
+            due(text + ": plan(" + what + ")", x.plan(what), due[what]);
+        }
+    }
+
+    /** What numbers are drawn from, one behind another. */
+    static long nextNumber(long number) {
+        return (number * 1103515245L + 12345L) % 2147483648L;
+    }
+
+    /** The very class counts: an exception of the machine's own is of another one. */
+    static String thrown(ShadowTwin x, int doing, int what) {
+        try {
+            return String.valueOf(x.doing(doing, what));
+        } catch (IndexOutOfBoundsException | NoSuchElementException e) {
+            return e.getClass().getSimpleName();
+        }
     }
 
     /** Whole states are compared by all that can be asked without changing anything. */

@@ -247,37 +247,29 @@ public final class EdgeAskTest {
         Check.due("without lamps", new ShadowTwin().lampsFor(0, 0), -2);
     }
 
-    private static void plan(String text, int first, int second, int third, int fourth, int worth) {
-        ShadowTwin x = Check.told(text);
-        int[] due = {first, second, third, fourth, worth};
-        for (int what = 0; what < 5; what++) {
-            Check.due(text + ": plan(" + what + ")", x.plan(what), due[what]);
-        }
-    }
-
     private static void planFourHours() {
         Check.about("PLAN: for each of the next four HOURS a WAY 0 .. 3 or 4 (she stays):");
-        plan("room 1 8;doing d 0 0 3 9;", 0, 1, 1, 1, 9);
-        plan("room 1 8;doing d 0 0 4 9;", 1, 1, 1, 1, 9);
-        plan("room 1 8;doing d 0 0 5 9;", 0, 0, 0, 0, 0);
-        plan("room 1 8;sun 0 1 2;doing d 1 0 6 9;", 1, 1, 1, 1, 9);
-        plan("room 1 8;her 0 4;sun 0 1 2;doing d 1 0 7 9;", 0, 0, 0, 1, 9);
-        plan("her 4 4;doing a 0 4 2 1;doing b 0 2 4 1;", 0, 0, 0, 0, 1);
-        plan("her 4 4;doing a 0 4 2 2;doing b 0 2 4 1;", 0, 2, 3, 3, 2);
+        Check.plan("room 1 8;doing d 0 0 3 9;", 0, 1, 1, 1, 9);
+        Check.plan("room 1 8;doing d 0 0 4 9;", 1, 1, 1, 1, 9);
+        Check.plan("room 1 8;doing d 0 0 5 9;", 0, 0, 0, 0, 0);
+        Check.plan("room 1 8;sun 0 1 2;doing d 1 0 6 9;", 1, 1, 1, 1, 9);
+        Check.plan("room 1 8;her 0 4;sun 0 1 2;doing d 1 0 7 9;", 0, 0, 0, 1, 9);
+        Check.plan("her 4 4;doing a 0 4 2 1;doing b 0 2 4 1;", 0, 0, 0, 0, 1);
+        Check.plan("her 4 4;doing a 0 4 2 2;doing b 0 2 4 1;", 0, 2, 3, 3, 2);
         // only who stays stays: each way leads off the one cell that it falls from
-        plan("room 3 3;her 1 1;sun 0 1 1;sun 1 0 0;doing d 1 1 2 7;law tired 9;", 4, 0, 0, 0, 7);
-        plan("room 3 3;her 1 1;sun 0 0 0;sun 3 1 1;sun 4 0 0;doing d 1 1 2 7;law tired 9;", 4, 4, 4, 4, 7);
+        Check.plan("room 3 3;her 1 1;sun 0 1 1;sun 1 0 0;doing d 1 1 2 7;law tired 9;", 4, 0, 0, 0, 7);
+        Check.plan("room 3 3;her 1 1;sun 0 0 0;sun 3 1 1;sun 4 0 0;doing d 1 1 2 7;law tired 9;", 4, 4, 4, 4, 7);
     }
 
     private static void planFirstByWays() {
         Check.about("by which WORTH of what is DONE in these four HOURS as it goes is most, of several the first by WAYS.");
-        plan("her 2 2;", 0, 0, 0, 0, 0);
-        plan("her 2 2;doing d 0 2 2 5;doing e 0 2 3 5;doing f 0 2 1 5;", 1, 3, 3, 0, 15);
-        plan("her 2 2;doing d 0 0 2 5;doing e 0 4 2 5;", 0, 0, 0, 0, 5);
-        plan("her 2 2;doing d 0 0 2 5;doing e 0 4 2 6;", 0, 2, 2, 2, 6);
-        plan("her 2 2;doing d 0 2 0 5;doing e 0 2 4 5;", 0, 1, 1, 2, 5);
-        plan("room 1 3;her 0 1;sun 0 1 1;cloud 49;doing d 1 0 2 5;doing e 1 0 1 5;", 0, 0, 0, 3, 10);
-        plan("room 1 3;her 0 1;sun 0 1 1;cloud 50;doing d 1 0 2 5;doing e 1 0 1 5;", 0, 0, 0, 0, 0);
+        Check.plan("her 2 2;", 0, 0, 0, 0, 0);
+        Check.plan("her 2 2;doing d 0 2 2 5;doing e 0 2 3 5;doing f 0 2 1 5;", 1, 3, 3, 0, 15);
+        Check.plan("her 2 2;doing d 0 0 2 5;doing e 0 4 2 5;", 0, 0, 0, 0, 5);
+        Check.plan("her 2 2;doing d 0 0 2 5;doing e 0 4 2 6;", 0, 2, 2, 2, 6);
+        Check.plan("her 2 2;doing d 0 2 0 5;doing e 0 2 4 5;", 0, 1, 1, 2, 5);
+        Check.plan("room 1 3;her 0 1;sun 0 1 1;cloud 49;doing d 1 0 2 5;doing e 1 0 1 5;", 0, 0, 0, 3, 10);
+        Check.plan("room 1 3;her 0 1;sun 0 1 1;cloud 50;doing d 1 0 2 5;doing e 1 0 1 5;", 0, 0, 0, 0, 0);
         ShadowTwin x = Check.told("room 1 3;doing a 0 0 0 9;doing b 0 0 1 2;");
         x.go(1);
         Check.due("what is done is done", x.plan(4), 2);
@@ -287,12 +279,12 @@ public final class EdgeAskTest {
 
     private static void planAheadOfSteps() {
         Check.about("steps like those told, ahead of (2) of it (REFUSED ones, too)");
-        plan("room 1 8;step 3 1;doing d 0 0 5 9;", 1, 1, 1, 1, 9);
-        plan("room 1 8;step 4 1;doing d 0 0 5 9;", 0, 0, 0, 0, 0);
+        Check.plan("room 1 8;step 3 1;doing d 0 0 5 9;", 1, 1, 1, 1, 9);
+        Check.plan("room 1 8;step 4 1;doing d 0 0 5 9;", 0, 0, 0, 0, 0);
         // she is too tired for the step told, if hers isn't refused: up out of the room is
-        plan("room 2 3;her 0 0;step 0 1;law tired 9;doing d 0 0 1 9;", 0, 0, 0, 0, 9);
-        plan("room 2 3;her 0 1;step 0 1;law tired 9;doing d 0 1 1 9;", 2, 0, 0, 0, 9);
-        plan("room 3 4;her 1 0;step 0 1;law tired 9;doing d 0 1 1 9;", 1, 0, 0, 0, 9);
+        Check.plan("room 2 3;her 0 0;step 0 1;law tired 9;doing d 0 0 1 9;", 0, 0, 0, 0, 9);
+        Check.plan("room 2 3;her 0 1;step 0 1;law tired 9;doing d 0 1 1 9;", 2, 0, 0, 0, 9);
+        Check.plan("room 3 4;her 1 0;step 0 1;law tired 9;doing d 0 1 1 9;", 1, 0, 0, 0, 9);
         ShadowTwin tired = Check.told("room 1 8;law tired 9;doing d 0 0 2 9;doing e 0 0 1 1;");
         Check.due("one step, then she is tired", tired.plan(4), 1);
         tired.go(21);
@@ -652,16 +644,12 @@ public final class EdgeAskTest {
         }
     }
 
-    private static long next(long number) {
-        return (number * 1103515245L + 12345L) % 2147483648L;
-    }
-
     private static void chanceNumbers() {
         Check.about("In how many of ten times drawn (numbers from a seed 0 .. 2147483647 on, one behind another; n 1 .. 99 HOURS from now)"
             + " so many DOINGS 0 .. 8 at least are DONE then; NONE: no such ones.");
         int[] seeds = {0, 1, 2, 77, 99999, 100000, 65535, 65536, 2147483646, 2147483647};
         for (int seed : seeds) {
-            long first = next(seed) / 65536 % 100;
+            long first = Check.nextNumber(seed) / 65536 % 100;
             for (long cloud = Math.max(1, first); cloud <= Math.min(99, first + 1); cloud++) {
                 ShadowTwin x = Check.told("room 1 2;sun 0 1 1;doing d 1 0 1 1;cloud " + cloud + ";seed 5;");
                 for (int n = 1; n <= 3; n++) {
@@ -670,7 +658,7 @@ public final class EdgeAskTest {
                     for (int i = 0; i < 10; i++) {
                         boolean isDone = false;
                         for (int hour = 0; hour < n; hour++) {
-                            number = next(number);
+                            number = Check.nextNumber(number);
                             isDone |= number / 65536 % 100 >= cloud;
                         }
                         due += isDone ? 1 : 0;

@@ -1,5 +1,3 @@
-import java.util.NoSuchElementException;
-
 /** Both sides of every boundary that ==== 2. of the document and promises 6 to 15 name, a test for each sentence. */
 public final class EdgeHourTest {
     private static final int[] DOWN = {-1, 0, 1, 0};
@@ -203,16 +201,12 @@ public final class EdgeHourTest {
         falls("room 1 8;wall 0 1;wall 0 7;sun 0 1 7;", 0, 7);
     }
 
-    private static long next(long number) {
-        return (number * 1103515245L + 12345L) % 2147483648L;
-    }
-
     private static void cloudsByNumbers() {
         Check.about("(1) clouds: a number modulo 100 (no number, if cloud is 0 or 100 or there are no SUNS) below cloud.");
         Check.about("Numbers are the last one (at first the seed) times 1103515245 and 12345, without what is above 31 bits, by 65536.");
         int looked = 0;
         for (int seed = 0; seed <= 99999; seed += 1111) {
-            long first = next(seed) / 65536 % 100;
+            long first = Check.nextNumber(seed) / 65536 % 100;
             if (first < 1 || first > 98) {
                 continue;
             }
@@ -222,7 +216,7 @@ public final class EdgeHourTest {
                 long number = seed;
                 int ones = 0;
                 for (int hour = 1; hour <= 30; hour++) {
-                    number = next(number);
+                    number = Check.nextNumber(number);
                     ones += number / 65536 % 100 < cloud ? 1 : 0;
                     x.go(1);
                     Check.due("seed " + seed + ", cloud " + cloud + ", hour " + hour, x.count(10), ones);
@@ -621,36 +615,27 @@ public final class EdgeHourTest {
     private static void doingThrows() {
         Check.about("IndexOutOfBoundsException: no such DOING. NoSuchElementException: no such what.");
         ShadowTwin x = Check.told("doing a 0 1 2 3;doing b 1 4 0 99;");
-        Check.same("doing(0, 0)", thrown(x, 0, 0), "0");
-        Check.same("doing(0, 4)", thrown(x, 0, 4), "0");
-        Check.same("doing(1, 0)", thrown(x, 1, 0), "1");
-        Check.same("doing(1, 1)", thrown(x, 1, 1), "4");
-        Check.same("doing(1, 2)", thrown(x, 1, 2), "0");
-        Check.same("doing(1, 3)", thrown(x, 1, 3), "99");
-        Check.same("doing(1, 4)", thrown(x, 1, 4), "0");
-        Check.same("doing(0, 5)", thrown(x, 0, 5), "NoSuchElementException");
-        Check.same("doing(2, 0)", thrown(x, 2, 0), "IndexOutOfBoundsException");
-        Check.same("doing(2, 5)", thrown(x, 2, 5), "IndexOutOfBoundsException");
+        Check.same("doing(0, 0)", Check.thrown(x, 0, 0), "0");
+        Check.same("doing(0, 4)", Check.thrown(x, 0, 4), "0");
+        Check.same("doing(1, 0)", Check.thrown(x, 1, 0), "1");
+        Check.same("doing(1, 1)", Check.thrown(x, 1, 1), "4");
+        Check.same("doing(1, 2)", Check.thrown(x, 1, 2), "0");
+        Check.same("doing(1, 3)", Check.thrown(x, 1, 3), "99");
+        Check.same("doing(1, 4)", Check.thrown(x, 1, 4), "0");
+        Check.same("doing(0, 5)", Check.thrown(x, 0, 5), "NoSuchElementException");
+        Check.same("doing(2, 0)", Check.thrown(x, 2, 0), "IndexOutOfBoundsException");
+        Check.same("doing(2, 5)", Check.thrown(x, 2, 5), "IndexOutOfBoundsException");
         for (int beyond : BEYOND) {
-            Check.same("doing(" + beyond + ", 0)", thrown(x, beyond, 0), "IndexOutOfBoundsException");
-            Check.same("doing(1, " + beyond + ")", thrown(x, 1, beyond), "NoSuchElementException");
+            Check.same("doing(" + beyond + ", 0)", Check.thrown(x, beyond, 0), "IndexOutOfBoundsException");
+            Check.same("doing(1, " + beyond + ")", Check.thrown(x, 1, beyond), "NoSuchElementException");
         }
-        Check.same("doing(0, 0) of none", thrown(new ShadowTwin(), 0, 0), "IndexOutOfBoundsException");
+        Check.same("doing(0, 0) of none", Check.thrown(new ShadowTwin(), 0, 0), "IndexOutOfBoundsException");
         String all = "doing a 0 0 0 1;doing b 0 0 0 2;doing c 0 0 0 3;doing d 0 0 0 4;doing e 0 0 0 5;doing f 0 0 0 6;doing g 0 0 0 7;";
         ShadowTwin full = Check.told(all + "doing h 0 0 0 8;");
-        Check.same("doing(7, 3)", thrown(full, 7, 3), "8");
-        Check.same("doing(8, 3)", thrown(full, 8, 3), "IndexOutOfBoundsException");
+        Check.same("doing(7, 3)", Check.thrown(full, 7, 3), "8");
+        Check.same("doing(8, 3)", Check.thrown(full, 8, 3), "IndexOutOfBoundsException");
         full.go(1);
-        Check.same("doing(7, 4)", thrown(full, 7, 4), "1");
-    }
-
-    /** The very class counts: an exception of the machine's own is of another one. */
-    private static String thrown(ShadowTwin x, int doing, int what) {
-        try {
-            return String.valueOf(x.doing(doing, what));
-        } catch (IndexOutOfBoundsException | NoSuchElementException e) {
-            return e.getClass().getSimpleName();
-        }
+        Check.same("doing(7, 4)", Check.thrown(full, 7, 4), "1");
     }
 
     private static void manOfAll() {

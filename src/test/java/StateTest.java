@@ -1,5 +1,3 @@
-import java.util.NoSuchElementException;
-
 /** Promises 6 to 11 and 34: where (the LIGHT), doing, man, lamp, wall, law, count. */
 public final class StateTest {
     public static void main(String[] args) {
@@ -146,20 +144,12 @@ public final class StateTest {
         x.go(1);
         Check.due("done", x.doing(1, 4), 1);
         Check.due("still not done", x.doing(0, 4), 0);
-        Check.same("doing(2, 0)", thrown(x, 2, 0), "IndexOutOfBoundsException");
-        Check.same("doing(-1, 0)", thrown(x, -1, 0), "IndexOutOfBoundsException");
-        Check.same("doing(2, 9)", thrown(x, 2, 9), "IndexOutOfBoundsException");
-        Check.same("doing(0, 5)", thrown(x, 0, 5), "NoSuchElementException");
-        Check.same("doing(0, -1)", thrown(x, 0, -1), "NoSuchElementException");
-        Check.same("doing of none", thrown(new ShadowTwin(), 0, 0), "IndexOutOfBoundsException");
-    }
-
-    private static String thrown(ShadowTwin x, int doing, int what) {
-        try {
-            return String.valueOf(x.doing(doing, what));
-        } catch (IndexOutOfBoundsException | NoSuchElementException e) {
-            return e.getClass().getSimpleName();
-        }
+        Check.same("doing(2, 0)", Check.thrown(x, 2, 0), "IndexOutOfBoundsException");
+        Check.same("doing(-1, 0)", Check.thrown(x, -1, 0), "IndexOutOfBoundsException");
+        Check.same("doing(2, 9)", Check.thrown(x, 2, 9), "IndexOutOfBoundsException");
+        Check.same("doing(0, 5)", Check.thrown(x, 0, 5), "NoSuchElementException");
+        Check.same("doing(0, -1)", Check.thrown(x, 0, -1), "NoSuchElementException");
+        Check.same("doing of none", Check.thrown(new ShadowTwin(), 0, 0), "IndexOutOfBoundsException");
     }
 
     private static void man() {
